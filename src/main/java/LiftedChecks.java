@@ -1564,7 +1564,7 @@ public final class LiftedChecks {
     private static final class Census {
         private Code code;
         private final Code[] listed = new Code[MOST_SET + 1];
-        private final long[][] lists = new long[MOST_SET + 1][64];
+        private final long[][] lists = new long[MOST_SET + 1][16];
         private final int[] sizes = new int[MOST_SET + 1];
         private final int[] pick = new int[MOST_SET];
         private final int[] odd = new int[MOST_SET];
@@ -1708,15 +1708,15 @@ public final class LiftedChecks {
         }
 
         private int countKnots() {
-            if (anyKnot(1 << ahead)) {
-                return 0;
-            }
+            int before = odd[ahead];
             int count = 0;
             for (int bit = firstLast(); bit < code.bits; bit++) {
-                int oddMask = odd[ahead] ^ code.checksOf[bit];
-                if (code.isHeldBy(bit, oddMask) && areHeldBy(oddMask)) {
+                int mask = code.checksOf[bit];
+                int wrong = mask & (before ^ mask);
+                // no BIT is had by more than four CHECKS, so two that are ODD are too many
+                if ((wrong & wrong - 1) == 0 && code.isHeldBy(bit, before ^ mask) && areHeldBy(before ^ mask)) {
                     pick[ahead] = bit;
-                    if (!anyKnot((1 << many) - 1)) {
+                    if (!anySmallerKnot()) {
                         list();
                         count++;
                     }
@@ -1734,9 +1734,9 @@ public final class LiftedChecks {
             return true;
         }
 
-        /** Whether a SET is a KNOT that one of the numbers 1 .. below tells, less than it. */
-        private boolean anyKnot(int below) {
-            for (int parts = 1; parts < below; parts++) {
+        private boolean anySmallerKnot() {
+            int whole = (1 << many) - 1;
+            for (int parts = 1; parts < whole; parts++) {
                 if (isKnot(parts)) {
                     return true;
                 }

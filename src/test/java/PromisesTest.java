@@ -16,6 +16,9 @@ public final class PromisesTest {
     /** BIT 3 is had by three CHECKS, 0, 1, 2 by two each. */
     private static final String STAR = "row 0 . . 0; row . 0 . 0; row . . 0 0; row 0 0 0 .;";
 
+    /** A ring of four CHECKS, one of which is the sum of the others: 16 BITS, 3 that are no CARRIERS. */
+    private static final String THIRTEEN = "lift 2; row 0 0 . . . . . .; row 0 1 . . . . . .;";
+
     private PromisesTest() {
     }
 
@@ -167,6 +170,13 @@ public final class PromisesTest {
         faulty("offset .;", 1, 7);
         faulty("most 3;", 1, 7);
         faulty("rows 0;", 1, 0);
+        faulty("rowa 0;", 1, 0);
+        faulty("rowz 0;", 1, 0);
+        faulty("row`0;", 1, 3);
+        faulty("row{0;", 1, 3);
+        faulty("row/0;", 1, 3);
+        faulty("row:0;", 1, 3);
+        faulty("row 9;", 2, 4);
         faulty("Row 0;", 1, 0);
         faulty("ro w 0;", 1, 0);
         faulty("row\t0;", 1, 3);
@@ -484,6 +494,10 @@ public final class PromisesTest {
             x.hear(0, n);
         }
         Due.is("twenty are kept", x.about(1), 20);
+        x.image();
+        x.hear(1, 1);
+        x.undo();
+        x.back();
         for (int n = 19; n >= 0; n--) {
             Due.is("undo", x.undo(), n);
             Due.is("heard", x.bit(0, 0), n + 5);
@@ -524,6 +538,15 @@ public final class PromisesTest {
         x.undo();
         Due.is("code as ahead", x.is(0), 2);
         Due.is("TEXTS stay", x.about(0), 2);
+        x = heard("row 0 . .; row . 0 0;", -9, 4, -9);
+        x.order(1);
+        x.step(39);
+        x.begin(1);
+        x.undo();
+        for (int i = 0; i < 16; i++) {
+            Due.is("the whole book as ahead", x.book(i, 0), i % 2);
+        }
+        Due.is("turned as ahead", x.turned(1), 1);
     }
 
     private static void p16Tell() {
@@ -847,6 +870,14 @@ public final class PromisesTest {
         Due.is("a knot", x.least(2, 0), 3);
         Due.is("a knot that traps with 1 or 2", x.trapped(2, 0, 5) > 0, x.traps(2, 5) > 0);
         trapsOfAllKinds();
+        x = Tape.coded("lift 2;row 1 . 1;row 0 1 1;row 1 0 1;");
+        int[] ends = {0, 2, 0, 2};
+        for (int i = 0; i < 4; i++) {
+            Due.is("trapped " + i, x.trapped(2, i, 7), ends[i]);
+        }
+        Due.is("those let go don't count", x.traps(2, 7), 2);
+        Due.is("the first is let go", x.least(2, 0), 9);
+        Due.is("so the next one is weakest", x.weakest(7), 17);
     }
 
     /** Found by PlainModel: LEAST KNOTS that end in each of the three ways. */
@@ -919,8 +950,8 @@ public final class PromisesTest {
         x.hear(5, -1);
         x.hear(0, 3);
         Due.is("likeliest of two", x.likeliest(), 22);
-        Due.is("13 carriers", Tape.coded("lift 2; row 0 0 0 0 0 0 0; row . . . . . . .;").likeliest(), 0);
-        Due.is("14 carriers", Tape.coded("lift 2; row . . . . . . .;").likeliest(), -1);
+        Due.is("12 carriers", Tape.coded("lift 2; row 0 0 0 0 0 0 0; row . . . . . . .;").likeliest(), 0);
+        Due.is("13 carriers", Tape.coded(THIRTEEN).likeliest(), -1);
     }
 
     private static void p54to56Words() {
@@ -952,10 +983,12 @@ public final class PromisesTest {
         Due.is("8 carriers", x.spectrum(4), 70);
         x = Tape.coded("lift 3; row . . . . 0;");
         Due.is("12 carriers of 15 BITS", x.spectrum(12), 1);
-        x = Tape.coded("lift 2; row . . . . . . .;");
-        Due.is("14 carriers", x.spectrum(0), -1);
-        Due.is("14 carriers", x.lightest(), -1);
-        Due.is("14 carriers", x.nearest(), -1);
+        x = Tape.coded(THIRTEEN);
+        Due.is("13 carriers", x.carrier(12), 15);
+        Due.is("no more", x.carrier(13), -1);
+        Due.is("13 carriers", x.spectrum(0), -1);
+        Due.is("13 carriers", x.lightest(), -1);
+        Due.is("13 carriers", x.nearest(), -1);
     }
 
     private static void p57to58Pipe() {
