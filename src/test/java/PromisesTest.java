@@ -542,6 +542,8 @@ public final class PromisesTest {
         x.order(1);
         x.step(39);
         x.begin(1);
+        x.step(20);
+        x.undo();
         x.undo();
         for (int i = 0; i < 16; i++) {
             Due.is("the whole book as ahead", x.book(i, 0), i % 2);
@@ -681,6 +683,10 @@ public final class PromisesTest {
         Due.is("turned", x.turned(3), 1);
         Due.is("not turned", x.turned(0), 0);
         Due.is("restless, the lowest of like ones", x.restless(), 1);
+        x = heard("row 0 0;", 3, -9);
+        x.begin(0);
+        x.step(1);
+        Due.is("restless", x.restless(), 0);
         x = heard("row 0 . .; row . 0 0;", -9, 4, -9);
         x.begin(0);
         x.step(80);
@@ -878,6 +884,10 @@ public final class PromisesTest {
         Due.is("those let go don't count", x.traps(2, 7), 2);
         Due.is("the first is let go", x.least(2, 0), 9);
         Due.is("so the next one is weakest", x.weakest(7), 17);
+        x = Tape.coded("lift 5;offset 0;row 4 0 4 1 4 0 .;row 2 3 2 0 . 1 3;row 3 . 4 . . 3 .;row . 3 0 4 2 2 3;");
+        Due.is("twenty are let go", x.traps(2, 10), 0);
+        Due.is("the next one isn't", x.trapped(2, 20, 10) > 0, true);
+        Due.is("but it isn't looked at", x.weakest(10), 2147614721L);
     }
 
     /** Found by PlainModel: LEAST KNOTS that end in each of the three ways. */
@@ -1018,6 +1028,10 @@ public final class PromisesTest {
         Due.is("like rows apart", x.pipe(2, 4, 0), 8);
         Due.is("quietest", x.quietest(4), 2);
         Due.is("all are like by 1", x.quietest(1), 0);
+        // SLOTS of its SWEEPS: 22, 20, 21, 20, 21
+        x = Tape.coded("row 0 . . 0 0 0 . 0; row . 0 . 0 . . . 0; row . 0 . . . 0 0 0; row 0 0 . 0 . 0 0 .;");
+        Due.is("slots of the third sweep", x.pipe(0, 6, 0), 21);
+        Due.is("stalls of the third sweep", x.pipe(0, 6, 1), 4);
     }
 
     private static void p59to60Clashes() {
@@ -1159,6 +1173,7 @@ public final class PromisesTest {
         Due.is("the tape is as it is", x.about(2), 20);
         Due.is("the fault is as it is", x.fault(1), 4);
         Due.is("texts are so again", x.about(0), 1);
+        Due.is("a text that is no more", x.load(1), -1);
         Due.is("X", x.is(9), 42);
         Due.is("sent", x.sent(), 22);
         Due.is("belief", x.bit(2, 1), -3 + 2);
