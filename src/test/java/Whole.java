@@ -51,34 +51,43 @@ final class Whole {
         answers.add(answer);
     }
 
+    /** Few calls, since an object is used for at most 512. */
     private void glance(String when, LiftedChecks x) {
-        for (int what = 0; what <= 10; what++) {
-            add(when + "is " + what, x.is(what));
-        }
+        add(when + "is 2", x.is(2));
+        add(when + "is 7", x.is(7));
+        add(when + "is 9", x.is(9));
         add(when + "sent", x.sent());
         add(when + "guess", x.guess());
         add(when + "mean", x.mean());
+        add(when + "cost", x.cost(0));
+        add(when + "layer", x.layer(0));
     }
 
     private void look(String when, LiftedChecks x) {
         glance(when, x);
+        for (int what = 0; what <= 10; what++) {
+            add(when + "is " + what, x.is(what));
+        }
         for (int what = 0; what <= 3; what++) {
             add(when + "about " + what, x.about(what));
         }
         add(when + "fault 0", x.fault(0));
         add(when + "fault 1", x.fault(1));
-        for (int row = 0; row < x.is(1); row++) {
+        int lift = x.is(0);
+        int rows = x.is(1);
+        int columns = x.is(2);
+        for (int row = 0; row < rows; row++) {
             add(when + "layer " + row, x.layer(row));
-            for (int column = 0; column < x.is(2); column++) {
+            for (int column = 0; column < columns; column++) {
                 add(when + "shift " + row + " " + column, x.shift(row, column));
             }
         }
-        for (int bit = 0; bit < x.is(0) * x.is(2); bit++) {
+        for (int bit = 0; bit < lift * columns; bit++) {
             add(when + "heard " + bit, x.bit(bit, 0));
             add(when + "belief " + bit, x.bit(bit, 1));
             add(when + "turned " + bit, x.turned(bit));
         }
-        for (int check = 0; check < x.is(0) * x.is(1); check++) {
+        for (int check = 0; check < lift * rows; check++) {
             int many = x.has(check, -1);
             for (int i = 0; i < many; i++) {
                 int bit = x.has(check, i);
