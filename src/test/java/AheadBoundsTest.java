@@ -14,6 +14,7 @@ public final class AheadBoundsTest {
     public static void main(String[] args) {
         wordsOfTwelveCarriers();
         wordsOfNoCarriers();
+        wordsOfOneCodeBehindAnother();
         spectrumAskedFor();
         likeliestOfLikeOnes();
         nearestOfLikeOnes();
@@ -97,6 +98,23 @@ public final class AheadBoundsTest {
         Due.is("all BITS", Tape.coded("row 0 0 .; row . 0 0;").lightest(), 3);
     }
 
+    private static void wordsOfOneCodeBehindAnother() {
+        LiftedChecks x = new LiftedChecks();
+        String[] texts = {"row 0 0;", "row 0 0 0;", "row . . . .;", "row 0;"};
+        int[][] due = {{1, 0, 1, 0, 0}, {1, 0, 3, 0, 0}, {1, 4, 6, 4, 1}, {1, 0, 0, 0, 0}};
+        for (String text : texts) {
+            Tape.put(x, text);
+            x.text();
+        }
+        int[] behind = {0, 1, 0, 2, 3, 1, 2, 0, 3, 2};
+        for (int text : behind) {
+            x.load(text);
+            for (int n = 0; n < 5; n++) {
+                Due.is("spectrum(" + n + ") of text " + text, x.spectrum(n), due[text][n]);
+            }
+        }
+    }
+
     private static void spectrumAskedFor() {
         LiftedChecks x = Tape.coded("lift 2; row . . . . . .;");
         int[] due = {1, 12, 66, 220, 495, 792, 924, 792, 495, 220, 66, 12, 1, 0, 0};
@@ -127,6 +145,8 @@ public final class AheadBoundsTest {
         Due.is("the other alone", x.likeliest(), 10);
         x = heard("row . .;", 0, 0);
         Due.is("HEARD 0 costs nothing", x.likeliest(), 0);
+        x = heard("row 0 0;", -9, 5);
+        Due.is("BIT 0 alone would cost least, but is no word", x.likeliest(), 3);
     }
 
     private static void nearestOfLikeOnes() {

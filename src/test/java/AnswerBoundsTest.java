@@ -35,6 +35,10 @@ public final class AnswerBoundsTest {
         peeledToTheLast();
         erasableSets();
         costOfHeard();
+        countsByAllSets();
+        countsInAnyOrder();
+        countsOfOneCodeBehindAnother();
+        theGreatestCode();
         Due.end();
     }
 
@@ -174,6 +178,9 @@ public final class AnswerBoundsTest {
             Due.is("a ring of " + lengths[lift - 1], x.girth(), lengths[lift - 1]);
             Due.is("fours", x.fours(), lift == 1 ? 1 : 0);
         }
+        // the shortest first, the shortest last
+        Due.is("4, then 6", Tape.coded("row 0 0 . .; row 0 0 0 .; row . . 0 0; row . 0 . 0;").girth(), 4);
+        Due.is("8, then 4", Tape.coded("row 0 0 . . .; row . 0 0 . .; row . . 0 0 0; row 0 . . 0 0;").girth(), 4);
         x = Tape.coded("lift 2; row 0 0 .; row . 0 0; row 0 . 0;");
         Due.is("two of six", x.girth() * 10 + x.sixes(), 62);
         x = Tape.coded("lift 2; row 0 0 .; row . 0 0; row 0 . 1;");
@@ -190,6 +197,12 @@ public final class AnswerBoundsTest {
         for (int[] o : others) {
             Due.is("path(" + o[0] + ", " + o[1] + ")", x.path(o[0], o[1]), -1);
         }
+        Due.is("one piece", x.pieces(), 1);
+        x = new LiftedChecks();
+        Due.is("by the only CHECK", x.path(0, 1), 1);
+        x = Tape.coded("row 0 0 . . .; row . . . 0 0; row . 0 0 . .; row . . 0 0 .;");
+        Due.is("by all CHECKS", x.path(0, 4), 4);
+        Due.is("and back", x.path(4, 0), 4);
         Due.is("one piece", x.pieces(), 1);
         x = Tape.coded(ALL_EMPTY);
         Due.is("no way", x.path(0, 47), -1);
@@ -438,5 +451,180 @@ public final class AnswerBoundsTest {
         Due.is("the greatest", x.cost(even), 48 * 31);
         Due.is("none", x.cost(0), 24 * 31);
         Due.is("all", x.cost((1L << 48) - 1), 24 * 31);
+    }
+
+    /** Each count once more, by has alone and by going through all SETS. */
+    private static void countsByAllSets() {
+        String[] texts = {"lift 3; row 0 1 . 2; row 1 . 0 2; row . 2 1 0;", "lift 2; row 0 0 1 . 1; row 1 0 . . 0; row 0 1 1 0 .;",
+            "row 0 0 0 . . . . .; row . . 0 0 0 . . .; row 0 . . . 0 0 . .; row . 0 . 0 . 0 . 0;",
+            "lift 3; row 0 0 0 .; row 1 2 0 .; row 0 1 2 0; row 2 2 1 1;", "lift 2; row 0 0 0 0 0 0; row 0 1 0 1 0 1;"};
+        for (String text : texts) {
+            LiftedChecks x = Tape.coded(text);
+            long[] checks = new long[x.is(0) * x.is(1)];
+            for (int check = 0; check < checks.length; check++) {
+                for (int i = x.has(check, -1) - 1; i >= 0; i--) {
+                    checks[check] |= 1L << x.has(check, i);
+                }
+            }
+            countsOf(x, checks, x.is(0) * x.is(2));
+        }
+    }
+
+    private static void countsOf(LiftedChecks x, long[] checks, int bits) {
+        int[][] counts = new int[5][4];
+        for (int set = 1; set < 1 << bits; set++) {
+            int many = Integer.bitCount(set);
+            if (many <= 4) {
+                counts[many][0] += isKnot(checks, set) && isLeast(checks, set) ? 1 : 0;
+                counts[many][1] += stops(checks, set) ? 1 : 0;
+                counts[many][2] += isWord(checks, set) ? 1 : 0;
+                counts[many][3] += left(checks, set) == 0 ? 1 : 0;
+            }
+        }
+        for (int many = 1; many <= 4; many++) {
+            Due.is("knots(" + many + ")", x.knots(many), counts[many][0]);
+            Due.is("stoppers(" + many + ")", x.stoppers(many), counts[many][1]);
+            Due.is("words(" + many + ")", x.words(many), counts[many][2]);
+            Due.is("erasable(" + many + ")", x.erasable(many), counts[many][3]);
+        }
+    }
+
+    private static boolean isKnot(long[] checks, long set) {
+        for (long rest = set; rest != 0; rest &= rest - 1) {
+            long bit = rest & -rest;
+            int more = 0;
+            for (long check : checks) {
+                if ((check & bit) != 0) {
+                    more += Long.bitCount(check & set) % 2 == 0 ? 1 : -1;
+                }
+            }
+            if (more <= 0) {
+                return false;
+            }
+        }
+        return true;
+    }
+
+    private static boolean isLeast(long[] checks, long set) {
+        for (long part = set - 1 & set; part != 0; part = part - 1 & set) {
+            if (isKnot(checks, part)) {
+                return false;
+            }
+        }
+        return true;
+    }
+
+    private static boolean stops(long[] checks, long set) {
+        for (long check : checks) {
+            if (Long.bitCount(check & set) == 1) {
+                return false;
+            }
+        }
+        return true;
+    }
+
+    private static boolean isWord(long[] checks, long set) {
+        for (long check : checks) {
+            if (Long.bitCount(check & set) % 2 != 0) {
+                return false;
+            }
+        }
+        return true;
+    }
+
+    private static long left(long[] checks, long set) {
+        for (long check : checks) {
+            if (Long.bitCount(check & set) == 1) {
+                return left(checks, set & ~check);
+            }
+        }
+        return set;
+    }
+
+    private static void countsInAnyOrder() {
+        String text = "lift 2; row 0 . 0 0 0; row . 0 0 1 1;";
+        LiftedChecks first = Tape.coded(text);
+        for (int many = 1; many <= 4; many++) {
+            LiftedChecks x = Tape.coded(text);
+            x.least(many, 0);
+            for (int size = 1; size <= 4; size++) {
+                Due.is("knots(" + size + ") behind least", x.knots(size), first.knots(size));
+                Due.is("words(" + size + ") behind least", x.words(size), first.words(size));
+                Due.is("stoppers(" + size + ") behind least", x.stoppers(size), first.stoppers(size));
+                Due.is("erasable(" + size + ") behind least", x.erasable(size), first.erasable(size));
+            }
+        }
+        Due.is("unlike numbers", first.knots(2) * 10000 + first.knots(3) * 100 + first.knots(4), 20612);
+    }
+
+    private static void countsOfOneCodeBehindAnother() {
+        LiftedChecks x = Tape.coded(SEVEN);
+        Due.is("21", x.least(2, 20), 96);
+        Tape.put(x, "row . 0 0;");
+        x.load(x.text());
+        Due.is("1", x.least(2, 0), 6);
+        Due.is("no more", x.least(2, 1), 0);
+        Due.is("how many", x.knots(2), 1);
+        x.undo();
+        Due.is("21 again", x.least(2, 20), 96);
+        Due.is("no more", x.least(2, 21), 0);
+        Due.is("how many", x.knots(2), 21);
+        x = Tape.coded("lift 3; row 0 0; row 0 0;");
+        Due.is("pairs that both CHECKS have", x.words(2), 3);
+        x.raise(0, 1);
+        Due.is("raised, they do so yet", x.words(2), 3);
+        x.slide(1, 1);
+        Due.is("slid, too", x.words(2) * 100 + x.knots(2), 303);
+        Tape.put(x, "lift 3; row 0 0; row 0 1;");
+        x.load(x.text());
+        Due.is("a ring", x.words(2), 0);
+        Due.is("of all", x.knots(2) + x.knots(3) + x.knots(4), 0);
+    }
+
+    /** 24 CHECKS of 8 BITS each, 48 BITS of 4 CHECKS each: the last ones of every row are looked at. */
+    private static void theGreatestCode() {
+        for (int mode = 0; mode <= 1; mode++) {
+            LiftedChecks x = Tape.coded(FULL);
+            x.send(7, 10);
+            Due.is("begun", x.begin(mode), 0);
+            Due.is("no BIT has turned", x.restless(), -1);
+            Due.is("step", x.step(1), 1);
+            for (int bit = 0; bit < 48; bit++) {
+                int sum = x.bit(bit, 0);
+                int had = 0;
+                for (int row = 0; row < 4; row++) {
+                    int check = row * 6 + Math.floorMod(bit % 6 - x.shift(row, bit / 6), 6);
+                    sum += x.message(check, bit);
+                    had += x.message(check, bit) == -100 ? 0 : 1;
+                }
+                Due.is("HEARD and all MESSAGES", x.bit(bit, 1), sum);
+                Due.is("had by", had, 4);
+            }
+        }
+        LiftedChecks x = Tape.coded(FULL);
+        int all = 0;
+        for (int bit = 0; bit < 48; bit++) {
+            all += x.message(23, bit) == -100 ? 0 : 1;
+        }
+        Due.is("the last CHECK has eight", all, 8);
+        Due.is("not the first BIT of the next CHECK", x.message(0, 1), -100);
+        Due.is("girth", x.girth(), 4);
+        Due.is("path", x.path(0, 47) > 0 && x.path(0, 47) < 3, true);
+        Due.is("pieces", x.pieces(), 1);
+        Due.is("peeled", x.peeled(1L << 47 | 1), 0);
+        Due.is("known", x.known(1L << 47 | 1), 2);
+        Due.is("erasable", x.erasable(1), 48);
+        Due.is("fours are counted by pairs", x.fours(), foursOf(x));
+    }
+
+    private static int foursOf(LiftedChecks x) {
+        int count = 0;
+        for (int a = 0; a < 24; a++) {
+            for (int b = 0; b < a; b++) {
+                int both = x.both(a, b);
+                count += both * (both - 1) / 2;
+            }
+        }
+        return count;
     }
 }

@@ -72,6 +72,13 @@ public final class ChangeBoundsTest {
         }
         Due.is("encode(4)", x.encode(4), -1);
         Due.is("sent stays", x.sent(), 11);
+        // the second CHECK tells the first BIT: BITS 2 and 3 carry
+        x = Tape.coded("row . 0 0 0; row 0 . 0 .;");
+        long[] other = {0, 7, 10, 13};
+        for (int n = 0; n < 4; n++) {
+            Due.is("encode", x.encode(n), Long.bitCount(other[n]));
+            Due.is("sent", x.sent(), other[n]);
+        }
         x = Tape.coded(ALL_EMPTY);
         Due.is("the last carrier", x.encode(1L << 47), 1);
         Due.is("the last BIT", x.sent(), 1L << 47);
