@@ -1,4 +1,4 @@
-/** The bounds of what is asked of a CODE and of SETS (promises 17 to 23, 33 to 56): the last that is answered, others. */
+/** The bounds of what is asked of a CODE and of SETS (promises 17 to 23, 33 to 52): the last that is answered, others. */
 public final class AnswerBoundsTest {
     private static final int MIN = Integer.MIN_VALUE;
     private static final int MAX = Integer.MAX_VALUE;
@@ -181,6 +181,8 @@ public final class AnswerBoundsTest {
         // the shortest first, the shortest last
         Due.is("4, then 6", Tape.coded("row 0 0 . .; row 0 0 0 .; row . . 0 0; row . 0 . 0;").girth(), 4);
         Due.is("8, then 4", Tape.coded("row 0 0 . . .; row . 0 0 . .; row . . 0 0 0; row 0 . . 0 0;").girth(), 4);
+        Due.is("8, then 6", Tape.coded("lift 2; row 0 0 . . .; row 0 1 0 0 .; row . . . 0 0; row . . 0 . 0;").girth(), 6);
+        Due.is("6, then 8", Tape.coded("lift 2; row . . 0 . 0; row . . . 0 0; row 0 1 0 0 .; row 0 0 . . .;").girth(), 6);
         x = Tape.coded("lift 2; row 0 0 .; row . 0 0; row 0 . 0;");
         Due.is("two of six", x.girth() * 10 + x.sixes(), 62);
         x = Tape.coded("lift 2; row 0 0 .; row . 0 0; row 0 . 1;");
@@ -315,7 +317,16 @@ public final class AnswerBoundsTest {
         Due.is("of four", x.knots(4), 1);
         Due.is("which", x.least(4, 0), 15);
         Due.is("none of three", x.knots(3), 0);
-        // a KNOT that has one of fewer BITS isn't LEAST
+        // a KNOT that has one of fewer BITS isn't LEAST, whichever BIT that one is without
+        String[] without = {"row . 0 0; row . 0 0; row 0 0 .; row 0 . 0;", "row 0 . 0; row 0 . 0; row 0 0 .; row . 0 0;",
+            "row 0 0 .; row 0 0 .; row 0 . 0; row . 0 0;"};
+        for (int bit = 0; bit < 3; bit++) {
+            x = Tape.coded(without[bit]);
+            Due.is("all three are a knot", x.knot(7), true);
+            Due.is("and two of them", x.least(2, 0), 7 - (1 << bit));
+            Due.is("no other pair", x.knots(2), 1);
+            Due.is("so not a least one", x.knots(3), 0);
+        }
         x = Tape.coded("row 0 0 . .; row . . 0 0;");
         Due.is("two pairs are a knot", x.knot(15), true);
         Due.is("not a least one", x.knots(4), 0);
