@@ -31,6 +31,7 @@ public final class ChangeBoundsTest {
         undoOfTwenty();
         undoOfEachKind();
         tellOfX();
+        callsUpTo512();
         Due.end();
     }
 
@@ -515,5 +516,17 @@ public final class ChangeBoundsTest {
         Due.is("it is no step", x.about(1), 0);
         Due.is("it can't be taken back", x.undo(), -1);
         Due.is("X stays", x.is(9), 30070);
+    }
+
+    /** An object is used for at most 512 calls: the last ones are answered as any other. */
+    private static void callsUpTo512() {
+        LiftedChecks x = new LiftedChecks();
+        for (int call = 1; call <= 508; call++) {
+            Due.is("hear", x.hear(call % 2, call % 63 - 31), true);
+        }
+        Due.is("call 509", x.bit(0, 0), 508 % 63 - 31);
+        Due.is("call 510", x.undo(), 19);
+        Due.is("call 511", x.bit(0, 0), 506 % 63 - 31);
+        Due.is("call 512", x.begin(0), (506 % 63 - 31 < 0) == (507 % 63 - 31 < 0) ? 1 : 0);
     }
 }
