@@ -183,6 +183,10 @@ public final class AnswerBoundsTest {
         Due.is("8, then 4", Tape.coded("row 0 0 . . .; row . 0 0 . .; row . . 0 0 0; row 0 . . 0 0;").girth(), 4);
         Due.is("8, then 6", Tape.coded("lift 2; row 0 0 . . .; row 0 1 0 0 .; row . . . 0 0; row . . 0 . 0;").girth(), 6);
         Due.is("6, then 8", Tape.coded("lift 2; row . . 0 . 0; row . . . 0 0; row 0 1 0 0 .; row 0 0 . . .;").girth(), 6);
+        // longer rings, found behind the shortest by CHECKS that are on none of these
+        Due.is("10, then 12", Tape.coded("lift 5; row . 0 1 . . . 2; row 3 . . 1 4 . 1; row . . 4 2 2 . .; row . 0 . 3 . 1 .;").girth(), 10);
+        Due.is("12, then 14", Tape.coded("lift 6; row . . 2 3 1; row 4 3 . . 5; row 4 . 3 5 .;").girth(), 12);
+        Due.is("12, then 16", Tape.coded("lift 6; row 2 . 1 .; row 3 1 . 1; row . 3 . 1; row . 4 0 .;").girth(), 12);
         x = Tape.coded("lift 2; row 0 0 .; row . 0 0; row 0 . 0;");
         Due.is("two of six", x.girth() * 10 + x.sixes(), 62);
         x = Tape.coded("lift 2; row 0 0 .; row . 0 0; row 0 . 1;");
